@@ -1051,7 +1051,7 @@ public final class SuetTroubles {
                 for (int column = 0; column < A_ROW; column++) {
                     int cell = SIDE * row + column;
                     int sheet = (3 << cell) | (3 << (cell + SIDE));
-                    if (fewest(shape & ~sheet) == best - 1) {
+                    if ((shape & sheet) != 0 && fewest(shape & ~sheet) == best - 1) {
                         return cell;
                     }
                 }
