@@ -1,3 +1,8 @@
+import java.lang.reflect.Method;
+import java.lang.reflect.Modifier;
+import java.util.Arrays;
+import java.util.Comparator;
+
 /** What the tests share: answers are compared, and wrong ones are printed and counted. */
 final class Check {
     static final int NONE = -1, UNKNOWN = -1000000001, OUTSIDE = -1000000002, NOT = -1000000003, FULL = -1000000004;
@@ -7,6 +12,7 @@ final class Check {
 
     private static int wrong;
     private static int asked;
+    private static String test = "";
 
     private Check() {
     }
@@ -15,7 +21,7 @@ final class Check {
         asked++;
         if (got != want) {
             wrong++;
-            System.out.println(call + " answered " + got + ", due is " + want);
+            System.out.println(test + call + " answered " + got + ", due is " + want);
         }
     }
 
@@ -23,7 +29,7 @@ final class Check {
         asked++;
         if (!is) {
             wrong++;
-            System.out.println("does not hold: " + what);
+            System.out.println(test + "does not hold: " + what);
         }
     }
 
@@ -44,6 +50,25 @@ final class Check {
         int answer = read(x, text);
         holds("no fault in " + text, answer >= 0 && x.fault() == NONE);
         return x;
+    }
+
+    /** Runs every static method without parameters of that class but main, so that none can be forgotten. */
+    static void all(Class<?> tests) throws ReflectiveOperationException {
+        Method[] methods = tests.getDeclaredMethods();
+        Arrays.sort(methods, Comparator.comparing(Method::getName));
+        int ran = 0;
+        for (Method m : methods) {
+            boolean isTest = Modifier.isStatic(m.getModifiers()) && m.getParameterCount() == 0 && m.getReturnType() == void.class;
+            if (isTest && !m.isSynthetic()) {
+                m.setAccessible(true);
+                test = m.getName() + ": ";
+                m.invoke(null);
+                ran++;
+            }
+        }
+        test = "";
+        holds("tests were found in " + tests.getName(), ran > 0);
+        end();
     }
 
     static void end() {
