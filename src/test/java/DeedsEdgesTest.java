@@ -50,6 +50,7 @@ public final class DeedsEdgesTest {
         x.bear(5);
         Check.due("on no more", x.told(7), 0);
         Check.due("borne", x.told(8), 32);
+        Check.due("and so by its number", x.trouble(5, 3), 3);
     }
 
     /** Promise 5: 11 "STRENGTH that is left together": all, and nothing of it. */
@@ -138,6 +139,15 @@ public final class DeedsEdgesTest {
         Check.due("cells of a snake", x.trouble(1, 5), 17);
         Check.due("parts of single cells", x.trouble(2, 4), 13);
         Check.due("the greatest of these", x.trouble(2, 5), 1);
+    }
+
+    /** Section 3, PARTS: the greatest may be the last one, and CELL 0 alone is one. */
+    static void greatestPartIsTheLast() {
+        SuetTroubles x = Check.of("f1 1;t0 1,1,0,30,0,0;t0 1,3,0,1,0,31;t0 1,1,0,0,0,0;t0 1,31,0,1,0,0;");
+        Check.due("the second of two", x.trouble(0, 5), 4);
+        Check.due("the third of three", x.trouble(1, 5), 5);
+        Check.due("one cell", x.trouble(2, 5), 1);
+        Check.due("the first of two", x.trouble(3, 5), 5);
     }
 
     /** Section 3, EDGE: "sides of its CELLS not towards one of them": THE BOARD's end is EDGE too. */
@@ -624,6 +634,17 @@ public final class DeedsEdgesTest {
         Check.due("all", x.rest(), 25);
         Check.due("again", x.rest(), 0);
         Check.due("left", x.told(11), 40);
+    }
+
+    /** Promise 13: "all LOADS": of six EATERS. */
+    static void restOfSix() {
+        SuetTroubles x = onFire("f20 1;t0 1,31,1,0,0,0;" + "e1;".repeat(6));
+        x.hour(1);
+        Check.due("bear(0)", x.bear(0), 0);
+        Check.due("rest()", x.rest(), 6);
+        for (int e = 0; e < 6; e++) {
+            Check.due("load " + e, x.eater(e, 1), 0);
+        }
     }
 
     /** Promise 13 in a KITCHEN without an EATER. */

@@ -154,6 +154,20 @@ public final class FeltEdgesTest {
         within(x, 1, 24, 1);
     }
 
+    /** Section 3, WEAVE: by the BUMPS and SHAPES that there are when it is asked, whatever was asked ahead of it. */
+    static void weaveAskedAlone() {
+        SuetTroubles x = Check.of("f1 1;t0 1,1,0,0,0,0;t0 1,31,31,31,31,31;");
+        Check.due("weave at first", x.told(16), 0);
+        x.bump(0, true);
+        Check.due("weave behind a bump", x.told(16), 1);
+        x.cut(1, 1);
+        Check.due("weave behind a cut", x.told(16), 2);
+        x.bump(24, false);
+        Check.due("weave of one pair", x.told(16), Check.NONE);
+        x.tear();
+        Check.due("weave behind tear()", x.told(16), 0);
+    }
+
     /** Section 3, WEAVE: the last CELL of THE BOARD, when that alone parts them. */
     static void weaveByTheLastCell() {
         SuetTroubles x = Check.of("f1 1;t0 1,31,31,31,31,31;t0 1,31,31,31,31,15;");

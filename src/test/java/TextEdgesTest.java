@@ -612,6 +612,26 @@ public final class TextEdgesTest {
         Check.due("pairs", x.told(15), 25);
     }
 
+    /** Promise 3: "all raw .. no LOADS": each of six TROUBLES and six EATERS, the first and the last too. */
+    static void kitchenAnewOfSix() {
+        String text = "f20 3;" + "t0 1,1,0,0,0,0;".repeat(6) + "e1;".repeat(6);
+        SuetTroubles x = Check.of(text);
+        for (int t = 0; t < 6; t++) {
+            x.wrap(t);
+            x.putOn(t);
+            x.hour(1);
+            x.bear(t);
+        }
+        Check.due("borne", x.told(8), 63);
+        Check.due("left", x.told(11), 0);
+        Check.read(x, text);
+        for (int k = 0; k < 6; k++) {
+            Check.due("raw " + k, x.trouble(k, 3), 0);
+            Check.due("hard " + k, x.trouble(k, 1), 1);
+            Check.due("load " + k, x.eater(k, 1), 0);
+        }
+    }
+
     // ---- Promise 4
 
     /** Promise 4: "NONE": ahead of the first kitchen(). */

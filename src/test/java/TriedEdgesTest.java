@@ -202,8 +202,10 @@ public final class TriedEdgesTest {
         SuetTroubles x = Check.of("f1 1;t3 200,1,0,0,0,0;t0 200,1,0,0,0,0;");
         Check.due("absence", x.when(0), 400);
         Check.due("plain", x.when(1), 200);
-        x.hour(1);
-        Check.due("absence from an odd hour", x.when(0), 399);
+        for (int hours = 1; hours <= 5; hours++) {
+            x.hour(1);
+            Check.due("absence from hour " + hours, x.when(0), hours % 2 == 1 ? 399 : 400);
+        }
     }
 
     /** Section 3, WHEN: HARD that H does not divide needs one HOUR more. */
@@ -270,6 +272,26 @@ public final class TriedEdgesTest {
         Check.due("the figures", x.order(3, 1), Check.NONE);
         Check.due("it alone", x.order(2, 0), Check.NONE);
         Check.due("the other", x.order(1, 1), 1);
+    }
+
+    /** Section 3, ORDER: one that is never GOOD leaves nothing behind for those that are. */
+    static void orderBehindNever() {
+        for (int never = 0; never < 6; never++) {
+            StringBuilder text = new StringBuilder("f1 1;");
+            for (int t = 0; t < 6; t++) {
+                text.append(t == never ? "t1 1,0,0,0,0,0;" : "t0 1,0,0,0,0,0;");
+            }
+            SuetTroubles x = wrapped(text.toString());
+            Check.due("all", x.order(63, 0), Check.NONE);
+            Check.due("it alone", x.order(1 << never, 1), Check.NONE);
+            for (int t = 0; t < 6; t++) {
+                if (t != never) {
+                    Check.due("the sum of " + t, x.order(1 << t, 0), 1);
+                    Check.due("the figure of " + t, x.order(1 << t, 1), t + 1);
+                }
+            }
+            Check.due("all the others", x.order(63 & ~(1 << never), 0), 15);
+        }
     }
 
     /** Section 3, ORDER: "500 HOURS of its own": all together may be far more. */
