@@ -703,6 +703,20 @@ public final class DeedsEdgesTest {
         Check.due("shape", x.trouble(0, 2), 1 << 24);
     }
 
+    /** Section 2: what a SHAPE lost needs no SHEET and has no WEIGHT. */
+    static void cutCellsAreGone() {
+        SuetTroubles x = Check.of("f20 1;t0 1,1,0,0,0,16;e1;");
+        Check.due("not bearable whole", x.trouble(0, 8), 0);
+        Check.due("cut(0, 24)", x.cut(0, 24), 1);
+        Check.due("bearable", x.trouble(0, 8), 1);
+        Check.due("wrap(0)", x.wrap(0), 1);
+        Check.due("sheets", x.told(10), 1);
+        x.putOn(0);
+        x.hour(1);
+        Check.due("bear(0)", x.bear(0), 0);
+        Check.due("load", x.eater(0, 1), 1);
+    }
+
     /** Promise 14 of a SHAPE without a CELL: it has none that could be lost. */
     static void cutNoShape() {
         SuetTroubles x = Check.of("f1 1;t0 1,0,0,0,0,0;");

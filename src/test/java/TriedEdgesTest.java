@@ -60,6 +60,8 @@ public final class TriedEdgesTest {
         wrapOf("16,0,0,0,0", 1, 3);
         wrapOf("0,0,0,0,1", 1, 15);
         wrapOf("0,0,0,0,16", 1, 18);
+        wrapOf("0,0,0,24,24", 1, 18);
+        wrapOf("0,0,0,31,31", 3, 15);
     }
 
     /** Section 3, WRAP: SHEETS may cover "CELLS beside it": the least of four for one CELL. */
