@@ -12,11 +12,11 @@ public final class SuetTroubles {
 
     private final Reader reader;
     private final Plan draft;
+    private final Deeds deeds;
     private final Plan plan;
     private final Scene scene;
     private final Sheets sheets;
     private final Draws draws;
-    private final Deeds deeds;
     private final Past past;
     private final Orders orders;
     private final Cloth cloth;
@@ -26,11 +26,11 @@ public final class SuetTroubles {
     public SuetTroubles() {
         reader = new Reader();
         draft = new Plan();
-        plan = new Plan();
-        scene = new Scene();
-        sheets = new Sheets();
-        draws = new Draws();
-        deeds = new Deeds(plan, scene, sheets, draws);
+        deeds = new Deeds();
+        plan = deeds.plan;
+        scene = deeds.scene;
+        sheets = deeds.sheets;
+        draws = deeds.draws;
         past = new Past();
         orders = new Orders();
         cloth = new Cloth();
@@ -617,17 +617,10 @@ public final class SuetTroubles {
 
     /** What is done to a scene, and what can be; callers have looked that the TROUBLE is there. */
     private static final class Deeds {
-        private final Plan plan;
-        private final Scene scene;
-        private final Sheets sheets;
-        private final Draws draws;
-
-        Deeds(Plan plan, Scene scene, Sheets sheets, Draws draws) {
-            this.plan = plan;
-            this.scene = scene;
-            this.sheets = sheets;
-            this.draws = draws;
-        }
+        final Plan plan = new Plan();
+        final Scene scene = new Scene();
+        final Sheets sheets = new Sheets();
+        final Draws draws = new Draws();
 
         int allThatAre(int stage) {
             int set = 0;
@@ -1079,16 +1072,16 @@ public final class SuetTroubles {
                     }
                 }
             }
-            tryNext(set, 0, 0, 0, 0);
+            tryNext(this, set, 0, 0, 0, 0);
         }
 
-        private void tryNext(int set, int hours, int sumSoFar, int figuresSoFar, int depth) {
-            if (sum != NONE && sumSoFar >= sum) {
+        private static void tryNext(Orders best, int set, int hours, int sum, int figures, int depth) {
+            if (best.sum != NONE && sum >= best.sum) {
                 return;
             }
             if (set == 0) {
-                sum = sumSoFar;
-                figures = figuresSoFar;
+                best.sum = sum;
+                best.figures = figures;
                 return;
             }
             if (depth >= MOST_TROUBLES) {
@@ -1096,8 +1089,8 @@ public final class SuetTroubles {
             }
             for (int t = 0; t < MOST_TROUBLES; t++) {
                 if (Shapes.has(set, t)) {
-                    int good = hours + time[2 * t + (startHour + hours) % 2];
-                    tryNext(set & ~(1 << t), good, sumSoFar + good, 10 * figuresSoFar + t + 1, depth + 1);
+                    int good = hours + best.time[2 * t + (best.startHour + hours) % 2];
+                    tryNext(best, set & ~(1 << t), good, sum + good, 10 * figures + t + 1, depth + 1);
                 }
             }
         }

@@ -101,10 +101,17 @@ public final class LanguageTest {
         }
     }
 
-    /** Methods are short, and nothing is made but by constructors and fields. */
-    private static void methods(String code) {
+    /** A method or constructor of the source: its head, its name, what it answers (null: a constructor), its lines. */
+    private record Found(String head, String name, String type, String body, int lines) {
+        boolean calls(String other) {
+            return Pattern.compile("(?<!new )\\b" + other + "\\(").matcher(body).find();
+        }
+    }
+
+    private static List<Found> find(String code) {
         Pattern head = Pattern.compile("^ +(?:public |private |static |final )*(?:(int|boolean|void|long|int\\[\\]) )?(\\w+)\\([^)]*\\) \\{$");
         String[] lines = code.split("\n", -1);
+        List<Found> all = new ArrayList<>();
         for (int k = 0; k < lines.length; k++) {
             Matcher m = head.matcher(lines[k]);
             if (!m.find() || List.of("if", "for", "while", "switch").contains(m.group(2))) {
@@ -112,13 +119,41 @@ public final class LanguageTest {
             }
             String indent = lines[k].substring(0, lines[k].length() - lines[k].stripLeading().length());
             int end = k;
-            boolean makes = false;
             while (end < lines.length - 1 && !lines[end].equals(indent + "}")) {
-                makes |= lines[end].contains("new ");
                 end++;
             }
-            Check.holds(m.group(2) + " has sixty lines at most", end - k <= 60);
-            Check.holds(m.group(2) + " makes nothing", !makes || m.group(1) == null);
+            String body = String.join("\n", Arrays.asList(lines).subList(k + 1, end));
+            all.add(new Found(lines[k].strip(), m.group(2), m.group(1), body, end - k));
         }
+        return all;
+    }
+
+    /** Methods are short, and nothing is made but by constructors and fields, which hand out nothing. */
+    private static void methods(String code) {
+        List<Found> all = find(code);
+        Check.holds("all methods were found: " + all.size(), all.size() > 100);
+        for (Found f : all) {
+            Check.holds(f.name + " has sixty lines at most", f.lines <= 60);
+            Check.holds(f.name + " makes nothing", f.type == null || !f.body.contains("new "));
+            Check.holds(f.name + " goes at most eight deep", f.type == null || depth(f, all, 0) <= 8);
+            if (f.calls(f.name)) {
+                Check.holds(f.name + " calls itself: private, static", f.head.startsWith("private static "));
+                Check.holds(f.name + " calls itself: by a depth", f.head.endsWith("int depth) {") && f.body.contains("depth >= "));
+            }
+        }
+        Matcher made = Pattern.compile("new \\w+\\([^)]").matcher(code);
+        Check.holds("a constructor hands out nothing", !made.find());
+        Check.holds("every loop tells its end", !Pattern.compile("while \\(true|for \\([^;]*; *;").matcher(code).find());
+    }
+
+    /** Methods of one name are taken as one, so this is what the source goes deep, or more. */
+    private static int depth(Found f, List<Found> all, int above) {
+        int most = 0;
+        for (Found other : all) {
+            if (other.type != null && !other.name.equals(f.name) && f.calls(other.name) && above < 20) {
+                most = Math.max(most, depth(other, all, above + 1));
+            }
+        }
+        return most + 1;
     }
 }
